@@ -437,7 +437,7 @@ public final class ThirstLead {
             return NOTHING;
         }
         Slot s = slots[slot];
-        int held = s.thing;
+        int was = s.thing;
         s.thing = thing;
         if (thing == HOLDS_WALKER) {
             s.walker.becomes(now.walkers[k]);
@@ -446,7 +446,7 @@ public final class ThirstLead {
         } else if (thing == HOLDS_NUMBER) {
             s.number = k;
         }
-        return held;
+        return was;
     }
 
     public int ask(int slot, int kind) {
