@@ -48,7 +48,7 @@ public final class ThirstLead {
         if (!isKind(kind) || !within(skin, 0, MOST_SKIN) || !within(knows, 0, KNOWS_NONE)) {
             return BAD;
         }
-        return now.size >= WALKERS ? FULL : now.join(kind, skin, knows);
+        return now.join(kind, skin, knows);
     }
 
     public int told(int walker, int what) {
@@ -742,6 +742,7 @@ public final class ThirstLead {
             return has(walker) ? walkers[walker].thirst : BAD;
         }
 
+        /** One more WALKER: its number, or FULL. */
         int join(int kind, int skin, int knows) {
             if (size >= WALKERS) {
                 return FULL;
