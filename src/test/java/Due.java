@@ -1,21 +1,27 @@
 /** Counts and prints the answers that are not the ones that are due. */
 final class Due {
     private static int wrong = 0;
+    private static String test = "";
 
     private Due() {
+    }
+
+    /** What is printed from now on is of the test that is so named. */
+    static void names(String name) {
+        test = name.isEmpty() ? "" : name + ": ";
     }
 
     static void is(String call, int got, int want) {
         if (got != want) {
             wrong++;
-            System.out.println(call + " answered " + got + ", due is " + want);
+            System.out.println(test + call + " answered " + got + ", due is " + want);
         }
     }
 
     static void holds(String what, boolean it) {
         if (!it) {
             wrong++;
-            System.out.println("does not hold: " + what);
+            System.out.println(test + "does not hold: " + what);
         }
     }
 
