@@ -43,6 +43,16 @@ public final class EdgesOfImagesTest {
         Twins.changesNothing("tell(1)", full, y -> y.tell(1), FULL);
     }
 
+    @Says("FULL: 60 wait.")
+    private static void promise37_theSixtyAreAsTheyWere() {
+        ThirstLead x = kept();
+        for (int v : Bands.hoursTold(kept(), 30)) {
+            x.tell(v);
+        }
+        Due.is("the next one", x.tell(-1), FULL);
+        Due.is("check(30)", x.check(30), 0);
+    }
+
     @Says("One more number waits: how many.")
     private static void promise37_anyNumber() {
         ThirstLead x = new ThirstLead();
@@ -54,7 +64,7 @@ public final class EdgesOfImagesTest {
 
     // ---- 38, check
 
-    @Says("BAD; NO: there is no IMAGE.")
+    @Says({"BAD; NO: there is no IMAGE.", "of several the one that stands first with it"})
     private static void promise38_badComesAheadOfNo() {
         int[] bad = {0, 31, -1, LEAST, MOST};
         for (int n : bad) {
@@ -117,7 +127,7 @@ public final class EdgesOfImagesTest {
         Due.is("wrong comes ahead of missing", checkOf(x, 3, 1, 6, 1), 3);
     }
 
-    @Says("are THE HOURS TOLD of n (1 .. 30;")
+    @Says({"are THE HOURS TOLD of n (1 .. 30;", "two by two: 0;"})
     private static void promise38_thirtyHours() {
         ThirstLead x = kept();
         for (int i = 1; i <= 30; i++) {

@@ -64,7 +64,7 @@ public final class EdgesOfSheetsTest {
         }
     }
 
-    @Says("BAD: sheet, sort, n above 24; SIZE.")
+    @Says({"BAD: sheet, sort, n above 24; SIZE.", "of several the one that stands first with it"})
     private static void promise28_badComesAheadOfSize() {
         refused("sheet(4, 0, -1)", x -> x.sheet(4, 0, -1), BAD);
         refused("sheet(-1, 1, -1)", x -> x.sheet(-1, 1, -1), BAD);
@@ -107,7 +107,7 @@ public final class EdgesOfSheetsTest {
 
     // ---- 29, mark
 
-    @Says("BAD: sheet; NOTHING; INDEX; KIND: NONE in a row of shorts; BAD: v of floats.")
+    @Says({"BAD: sheet; NOTHING; INDEX; KIND: NONE in a row of shorts; BAD: v of floats.", "of several the one that stands first with it"})
     private static void promise29_whichRefusalComesFirst() {
         int[] sheets = {-1, 4, LEAST, MOST};
         for (int sheet : sheets) {
@@ -154,7 +154,7 @@ public final class EdgesOfSheetsTest {
         refused("mark(0, 4, NONE)", x -> x.mark(0, 4, NONE), KIND);
     }
 
-    @Says({"of floats v, -99999 .. 99999; NONE: NO NUMBER", "BAD: v of floats."})
+    @Says({"of floats v, -99999 .. 99999; NONE: NO NUMBER", "BAD: v of floats.", "A place of floats may be NO NUMBER."})
     private static void promise29_floatsFromTheLeastToTheMost() {
         int[] bad = {100000, -100000, LEAST, MOST, NONE + 1, NONE - 1, BAD, KIND};
         for (int v : bad) {
@@ -175,7 +175,7 @@ public final class EdgesOfSheetsTest {
 
     // ---- 30, pour
 
-    @Says("how many are otherwise then. BAD; NOTHING.")
+    @Says({"how many are otherwise then. BAD; NOTHING.", "NOTHING: a SHEET is MISSING, a SLOT holds nothing"})
     private static void promise30_badSheetsAndMissingOnes() {
         int[] sheets = {-1, 4, LEAST, MOST};
         for (int sheet : sheets) {
@@ -301,7 +301,7 @@ public final class EdgesOfSheetsTest {
 
     // ---- 32, copy
 
-    @Says("BAD; NOTHING; KIND: they are not of one sort; INDEX.")
+    @Says({"BAD; NOTHING; KIND: they are not of one sort; INDEX.", "of several the one that stands first with it"})
     private static void promise32_whichRefusalComesFirst() {
         int[] bad = {-1, 4, LEAST, MOST};
         for (int b : bad) {
@@ -375,7 +375,7 @@ public final class EdgesOfSheetsTest {
 
     // ---- 33, lay
 
-    @Says("BAD: slot, thing, k; NOTHING: that SHEET is MISSING.")
+    @Says({"BAD: slot, thing, k; NOTHING: that SHEET is MISSING.", "of several the one that stands first with it"})
     private static void promise33_badSlotsThingsAndNumbers() {
         int[] slots = {-1, 5, LEAST, MOST};
         for (int slot : slots) {
@@ -466,7 +466,7 @@ public final class EdgesOfSheetsTest {
 
     // ---- 34, ask
 
-    @Says("WORTH of the WALKER in a SLOT, taken for one of a KIND (0 .. 5). BAD; NOTHING; KIND: it is no WALKER")
+    @Says({"WORTH of the WALKER in a SLOT, taken for one of a KIND (0 .. 5). BAD; NOTHING; KIND: it is no WALKER", "of several the one that stands first with it"})
     private static void promise34_whichRefusalComesFirst() {
         int[] slots = {-1, 5, LEAST, MOST};
         for (int slot : slots) {
@@ -507,7 +507,7 @@ public final class EdgesOfSheetsTest {
 
     // ---- 35, item
 
-    @Says("A place of the SHEET in a SLOT. BAD: slot; NOTHING; KIND: it is no SHEET; INDEX; KIND: NO NUMBER.")
+    @Says({"A place of the SHEET in a SLOT. BAD: slot; NOTHING; KIND: it is no SHEET; INDEX; KIND: NO NUMBER.", "of several the one that stands first with it"})
     private static void promise35_whichRefusalComesFirst() {
         int[] slots = {-1, 5, LEAST, MOST};
         for (int slot : slots) {
@@ -539,7 +539,7 @@ public final class EdgesOfSheetsTest {
         Due.is("place 24", x.item(0, 24), INDEX);
     }
 
-    @Says("INDEX; KIND: NO NUMBER.")
+    @Says({"INDEX; KIND: NO NUMBER.", "KIND: it is none (of a KIND, a number, or another thing)."})
     private static void promise35_noNumber() {
         refused("item(1, 2)", x -> x.item(1, 2), KIND);
         refused("item(1, 1)", x -> x.item(1, 1), 1000);
@@ -547,7 +547,7 @@ public final class EdgesOfSheetsTest {
 
     // ---- 36, rest
 
-    @Says("The rest of the number in a SLOT by n. BAD: slot; NOTHING; KIND: it is no number; NO: n is 0.")
+    @Says({"The rest of the number in a SLOT by n. BAD: slot; NOTHING; KIND: it is no number; NO: n is 0.", "of several the one that stands first with it"})
     private static void promise36_whichRefusalComesFirst() {
         int[] slots = {-1, 5, LEAST, MOST};
         for (int slot : slots) {

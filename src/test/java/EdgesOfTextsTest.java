@@ -145,12 +145,18 @@ public final class EdgesOfTextsTest {
         for (String tape : none) {
             fault(tape, 0);
         }
+        String[] keys = {"thirst", "fee", "fine"};
+        for (String key : keys) {
+            for (int i = 0; i < key.length(); i++) {
+                fault(key.substring(0, i) + "x" + key.substring(i + 1) + " 1", 0);
+            }
+        }
         fault("  fees 1", 2);
         fault("fee fee", 4);
         fault("fee fine 1", 4);
     }
 
-    @Says("PIECE: NUMBER (1 to 4 digits) | NAME | ! PIECE | ( E ).")
+    @Says({"PIECE: NUMBER (1 to 4 digits) | NAME | ! PIECE | ( E ).", "a NUMBER of more than 4 digits"})
     private static void promise25_aNumberHasOneToFourDigits() {
         gives("0", 0);
         gives("9", 9);
@@ -207,7 +213,8 @@ public final class EdgesOfTextsTest {
         gives("9", 9);
     }
 
-    @Says("Between words and signs, and at the ends, there may be blanks (byte 32); a word right behind another one needs one.")
+    @Says({"Between words and signs, and at the ends, there may be blanks (byte 32); a word right behind another one needs one.",
+        "(a word that needs a blank ahead of it"})
     private static void promise25_blanks() {
         good("   fee   (  1  +  !  d  )  *  2   ");
         good("fee(1)");
@@ -336,7 +343,7 @@ public final class EdgesOfTextsTest {
         gives("!!9", 1);
     }
 
-    @Says("E, the loosest first: OR: AND { | AND }; AND: TEST { & TEST }")
+    @Says({"E, the loosest first: OR: AND { | AND }; AND: TEST { & TEST }", "SUM: TERM { (+ | -) TERM }; TERM: PIECE { (* | /) PIECE }"})
     private static void promise25_theLoosestAndTheClosest() {
         gives("1|0&0", 1);
         gives("0&0|1", 1);
@@ -354,7 +361,7 @@ public final class EdgesOfTextsTest {
         gives("!(0*0)", 1);
     }
 
-    @Says({"TEXTS, 14 at most, numbered from 0", "-100 less the place of its FAULT; FULL."})
+    @Says({"TEXTS, 14 at most, numbered from 0", "THE TAPE is a TEXT: its number. -100 less the place of its FAULT; FULL."})
     private static void promise25_theFifteenthIsFull() {
         ThirstLead x = new ThirstLead();
         for (int i = 0; i < 14; i++) {
@@ -365,11 +372,25 @@ public final class EdgesOfTextsTest {
         Due.is("fee()", x.fee(), 13);
     }
 
-    @Says("-100 less the place of its FAULT; FULL.")
+    @Says({"-100 less the place of its FAULT; FULL.", "of several the one that stands first with it"})
     private static void promise25_aFaultComesAheadOfFull() {
         ThirstLead x = fourteen();
         Due.is("a FAULT", Due.textOf(x, "fee 99)"), -106);
         Due.is("an empty tape", x.text(), -100);
+    }
+
+    @Says("an act that reads it uses it up, whatever it answers")
+    private static void promise25_whatWasReadBeforeDoesNotCount() {
+        String[] before = {"", "fee", "fee q", "fee 12345", "fee d1", "feed", "fee (1", "fee (((((((((", "thirst h+h", "fee 1"};
+        for (String tape : before) {
+            ThirstLead x = new ThirstLead();
+            int texts = Due.textOf(x, tape) < 0 ? 0 : 1;
+            Due.is("text() behind '" + tape + "'", Due.textOf(x, "fine 1+2"), texts);
+            Due.is("its KEY", x.textTold(texts, 0), 2);
+            Due.is("its NUMBERS", x.textTold(texts, 1), 2);
+            Due.is("a FAULT behind it", Due.textOf(x, "fee"), -103);
+            Due.is("an empty tape behind it", x.text(), -100);
+        }
     }
 
     @Says({"an act that reads it uses it up, whatever it answers", "changes nothing (but the tape and the numbers that wait, where told)"})

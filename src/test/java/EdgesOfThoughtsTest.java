@@ -134,6 +134,22 @@ public final class EdgesOfThoughtsTest {
         Due.is("nobody thirsts", Bands.one(0, 59, 0).lasts(), NONE);
     }
 
+    @Says("(All this is only thought, from now on, z as it is")
+    private static void promise14_ledAsInHours() {
+        ThirstLead x = Bands.steady(10);
+        x.walker(0, 0, 2);
+        Due.is("without a well", x.lasts(), 6);
+        x.water(2, 2);
+        // In the second HOUR it drinks two cups, which are the THIRST of one HOUR.
+        Due.is("led to a well", x.lasts(), 7);
+        for (int walkers = 4; walkers <= 10; walkers++) {
+            ThirstLead y = Bands.rich(walkers);
+            int n = y.lasts();
+            Due.is("DEATHS just ahead", y.behind(n - 1, 1), y.band(2));
+            Due.holds("DEATHS are more behind " + n, y.behind(n, 1) > y.band(2));
+        }
+    }
+
     @Says("DEATHS are more than now first")
     private static void promise14_moreThanNow() {
         ThirstLead x = slow(59);
@@ -271,6 +287,19 @@ public final class EdgesOfThoughtsTest {
             x.water(cell, 0);
             Due.is("DEATHS without it", x.tells(0, 40, 1), 1);
         }
+    }
+
+    @Says("the cell 0 .. 23 which, if it KNEW it now")
+    private static void promise16_toKnowNoneIsNotAmongThem() {
+        ThirstLead x = Bands.steady(10);
+        x.walker(0, 0, 24);
+        for (int cell = 0; cell < 24; cell++) {
+            x.water(cell, 2);
+        }
+        // Each cell has water for one HOUR: whoever stays in one dies, who walks on (KNOWS 24) does not.
+        Due.is("DEATHS, if it KNOWS none", x.behind(20, 1), 0);
+        Due.is("DEATHS, whichever cell it KNOWS", x.tells(0, 20, 1), 1);
+        Due.is("the cell", x.tells(0, 20, 0), 0);
     }
 
     @Says("leaves fewest DEATHS behind n HOURS; of several the least.")
@@ -440,6 +469,18 @@ public final class EdgesOfThoughtsTest {
         Due.is("all DEAD", allDead().enough(40), 0);
     }
 
+    @Says("(All this is only thought, from now on, z as it is")
+    private static void promise18_ledAsInHours() {
+        ThirstLead x = Bands.steady(10);
+        x.walker(0, 0, 2);
+        Due.is("without a well", x.enough(6), 1);
+        x.water(2, 2);
+        Due.is("led to a well", x.enough(6), 0);
+        x.water(2, 0);
+        x.water(0, 99);
+        Due.is("led away from a well", x.enough(6), 1);
+    }
+
     @Says("leave DEATHS behind n HOURS as they are now")
     private static void promise18_deathsAsTheyAreNow() {
         ThirstLead x = allDead();
@@ -502,7 +543,8 @@ public final class EdgesOfThoughtsTest {
 
     // ---- 20, thirsted
 
-    @Says("THIRSTED by a SHEET, for a WALKER: what 0 the THIRST, 1 the differences, together. BAD; NOTHING.")
+    @Says({"THIRSTED by a SHEET, for a WALKER: what 0 the THIRST, 1 the differences, together. BAD; NOTHING.",
+        "of several the one that stands first with it"})
     private static void promise20_badComesAheadOfNothing() {
         int[][] bad = {{-1, 0, 0}, {4, 0, 0}, {LEAST, 0, 0}, {MOST, 0, 0}, {3, -1, 0}, {3, 4, 0}, {3, LEAST, 0},
             {3, MOST, 0}, {3, 0, -1}, {3, 0, 2}, {3, 0, LEAST}, {3, 0, MOST}, {0, 4, 0}, {0, 0, 2}};
@@ -575,6 +617,28 @@ public final class EdgesOfThoughtsTest {
         thirsted("alike with signs", x, 0, 25);
     }
 
+    @Says({"its THIRST behind k HOURS", "(All this is only thought, from now on, z as it is"})
+    private static void promise20_ledAsInHours() {
+        ThirstLead x = guessed(2);
+        x.set(0, 3, 1);
+        x.water(1, 99);
+        x.mark(0, 0, 50);
+        x.mark(0, 1, 1);
+        thirsted("led to a well", x, 50, 0);
+        x.water(1, 0);
+        x.water(0, 99);
+        x.mark(0, 1, 51);
+        thirsted("led away from a well", x, 50, 0);
+        ThirstLead y = Bands.rich(10);
+        y.set(4, 1, 15);
+        y.sheet(0, 1, 9);
+        for (int k = 0; k < 9; k++) {
+            y.mark(0, k, y.behind(k, 3 + 4));
+        }
+        Due.is("by its own HOURS, THIRST", y.thirsted(0, 4, 0), 15);
+        Due.is("by its own HOURS, differences", y.thirsted(0, 4, 1), 0);
+    }
+
     @Says("its THIRST behind k HOURS")
     private static void promise20_theThirstOfWhoDiesStays() {
         ThirstLead x = Bands.steady(10);
@@ -608,7 +672,7 @@ public final class EdgesOfThoughtsTest {
 
     // ---- 21, fee
 
-    @Says("of fee d DEATHS, l LOST (what fee gives is told by fee(); without a TEXT: DEATHS)")
+    @Says({"What fee gives.", "of fee d DEATHS, l LOST (what fee gives is told by fee(); without a TEXT: DEATHS)"})
     private static void promise21_withoutATextDeaths() {
         Due.is("a new one", new ThirstLead().fee(), 0);
         ThirstLead x = allDead();

@@ -99,6 +99,15 @@ public final class EdgesOfWalkersTest {
         promise01_noTextsNoTapeNoRowsNoImage();
     }
 
+    @Says("An object is used for at most 512 calls after it has been made")
+    private static void promise01_all512CallsAnswer() {
+        ThirstLead x = new ThirstLead();
+        for (int i = 1; i < 512; i++) {
+            x.tell(i);
+        }
+        Due.is("the last call", x.count(7), 60);
+    }
+
     // ---- 2, walker
 
     private static void badWalker(int kind, int skin, int knows) {
@@ -158,7 +167,7 @@ public final class EdgesOfWalkersTest {
         Twins.changesNothing("walker(1, 2, 3)", () -> Bands.rich(10), y -> y.walker(1, 2, 3), FULL);
     }
 
-    @Says("One more WALKER: its number. BAD; FULL.")
+    @Says({"One more WALKER: its number. BAD; FULL.", "of several the one that stands first with it"})
     private static void promise02_badComesAheadOfFull() {
         Twins.changesNothing("walker(6, 0, 0)", () -> Bands.rich(10), x -> x.walker(6, 0, 0), BAD);
         Twins.changesNothing("walker(0, 31, 0)", () -> Bands.rich(10), x -> x.walker(0, 31, 0), BAD);
@@ -193,6 +202,20 @@ public final class EdgesOfWalkersTest {
         ThirstLead x = Bands.rich(10);
         Due.is("told(9, 0)", x.told(9, 0), 3);
         Due.is("told(10, 0)", x.told(10, 0), BAD);
+    }
+
+    @Says("what 0 KIND, 1 THIRST, 2 SKIN, 3 KNOWS (24: none), 4 LED, 5 whether it LIVES (1, 0)")
+    private static void promise03_theLeastAndTheMostOfEach() {
+        int[][] rows = {{0, 0, 0, 0}, {5, 99, 30, 24}, {3, 98, 29, 23}};
+        for (int[] row : rows) {
+            ThirstLead x = new ThirstLead();
+            x.walker(row[0], row[2], row[3]);
+            x.set(0, 1, row[1]);
+            int[] want = {row[0], row[1], row[2], row[3], 0, 1};
+            for (int what = 0; what < want.length; what++) {
+                Due.is("told(0, " + what + ")", x.told(0, what), want[what]);
+            }
+        }
     }
 
     @Says("5 whether it LIVES (1, 0)")
@@ -258,7 +281,8 @@ public final class EdgesOfWalkersTest {
         Due.is("BOY, HOUR 9999", x.told(0, THIRSTS), 4);
     }
 
-    @Says("CAMEL: 1. SLAKES (less THIRST by a cup): WALKER: 5. FAT: 4. THIN: 6. BOY: as THIN, and 1. CAMEL: 9. (GUIDE as FAT.)")
+    @Says({"CAMEL: 1. SLAKES (less THIRST by a cup): WALKER: 5. FAT: 4. THIN: 6. BOY: as THIN, and 1. CAMEL: 9. (GUIDE as FAT.)",
+        "(A KIND that is not named does as the one above it.)"})
     private static void promise03_slakesByKinds() {
         ThirstLead x = Bands.oneOfEach(0, 24);
         int[] want = {5, 4, 6, 4, 7, 9};
@@ -291,7 +315,7 @@ public final class EdgesOfWalkersTest {
         }
     }
 
-    @Says("Else the nearer way round to KNOWS (of like ones 1).")
+    @Says({"Else the nearer way round to KNOWS (of like ones 1).", "(FAT, THIN as WALKER.)"})
     private static void promise03_theNearerWayRoundTheRing() {
         for (int cell = 0; cell < 24; cell++) {
             ways(cell, (cell + 1) % 24, 1);
@@ -423,15 +447,21 @@ public final class EdgesOfWalkersTest {
     private static void promise05_fromTheFirstKindToTheLastAndBack() {
         ThirstLead x = Bands.steady(10);
         x.walker(0, 6, 3);
+        x.hours(2);
         x.set(0, 1, 11);
+        x.set(0, 2, 6);
         Due.is("turns(0, 5)", x.turns(0, 5), 0);
         Due.is("it is a CAMEL", x.told(0, THIRSTS), 1);
         Due.is("turns(0, 5) again", x.turns(0, 5), 5);
         Due.is("turns(0, 0)", x.turns(0, 0), 5);
-        int[] told = {0, 11, 6, 3, 0, 1, 10, 5, 1, 6};
+        int[] told = {0, 11, 6, 3, 2, 1, 10, 5, 1, 6};
         for (int what = 0; what < told.length; what++) {
             Due.is("told(0, " + what + ")", x.told(0, what), told[what]);
         }
+        ThirstLead dead = Bands.one(0, 60, 0);
+        dead.hours(1);
+        Due.is("a dead one turns too", dead.turns(0, 2), 0);
+        Due.is("and stays DEAD", dead.told(0, 5), 0);
     }
 
     // ---- 6, set
