@@ -36,9 +36,10 @@ final class Bands {
     }
 
     static void passTo(ThirstLead x, int hour) {
-        for (int h = x.count(1); h < hour; h = x.count(1)) {
-            x.hours(Math.min(100, hour - h));
+        for (int left = hour - x.count(1); left > 0; left -= 100) {
+            x.hours(Math.min(100, left));
         }
+        Due.is("THE HOUR to which they passed", x.count(1), hour);
     }
 
     /** One WALKER in cell 0 that stays there, with so much THIRST and SKIN; it thirsts no more. */

@@ -1,7 +1,7 @@
 /** Counts and prints the answers that are not the ones that are due. */
 final class Due {
     private static int wrong = 0;
-    private static String test = "";
+    private static volatile String test = "";
 
     private Due() {
     }
@@ -9,6 +9,10 @@ final class Due {
     /** What is printed from now on is of the test that is so named. */
     static void names(String name) {
         test = name.isEmpty() ? "" : name + ": ";
+    }
+
+    static String named() {
+        return test;
     }
 
     static void is(String call, int got, int want) {

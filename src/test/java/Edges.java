@@ -11,12 +11,14 @@ import java.util.regex.Pattern;
 final class Edges {
     private static final Path DOCUMENT = Path.of("../shared/DOC.md");
     private static final Pattern NAME = Pattern.compile("promise(\\d\\d)_\\w+");
+    private static final int SECONDS_AT_MOST = 60;
 
     private Edges() {
     }
 
     /** Runs every test of a class, and ends with exit code 1, if one fails. */
     static void run(Class<?> tests) throws Exception {
+        endInTime(tests);
         String document = Files.readString(DOCUMENT);
         for (Method test : testsOf(tests)) {
             Due.names(test.getName());
@@ -29,6 +31,21 @@ final class Edges {
         }
         Due.names("");
         Due.end(tests.getName());
+    }
+
+    /** A call that does not end is a fault as well, and must not hold up the other tests. */
+    private static void endInTime(Class<?> tests) {
+        Thread watch = new Thread(() -> {
+            try {
+                Thread.sleep(1000L * SECONDS_AT_MOST);
+                System.out.println(tests.getName() + ": not ended within " + SECONDS_AT_MOST + " seconds, in " + Due.named());
+                Runtime.getRuntime().halt(1);
+            } catch (InterruptedException e) {
+                Thread.currentThread().interrupt();
+            }
+        });
+        watch.setDaemon(true);
+        watch.start();
     }
 
     /** The tests in the order of their names, so that each run is the same. */

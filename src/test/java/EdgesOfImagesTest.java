@@ -35,7 +35,7 @@ public final class EdgesOfImagesTest {
         Due.is("numbers that wait", x.count(7), 60);
         Twins.Made full = () -> {
             ThirstLead y = Bands.rich(4);
-            while (y.count(7) < 60) {
+            for (int i = y.count(7); i < 60; i++) {
                 y.tell(1);
             }
             return y;

@@ -391,6 +391,16 @@ public final class EdgesOfTextsTest {
             Due.is("a FAULT behind it", Due.textOf(x, "fee"), -103);
             Due.is("an empty tape behind it", x.text(), -100);
         }
+        String[] told = {"fee !1", "fee 1+1", "fee 1*!0", "fee (1|1)&!1"};
+        for (String tape : told) {
+            ThirstLead x = new ThirstLead();
+            x.walker(0, 0, 0);
+            Due.textOf(x, tape);
+            Due.textOf(x, "fine 7");
+            Due.is("fine 7 behind '" + tape + "'", x.fine(0), 7);
+            Due.textOf(x, "fine 7-2");
+            Due.is("fine 7-2 behind '" + tape + "'", x.fine(0), 5);
+        }
     }
 
     @Says({"an act that reads it uses it up, whatever it answers", "changes nothing (but the tape and the numbers that wait, where told)"})
