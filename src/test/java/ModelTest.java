@@ -57,6 +57,12 @@ public final class ModelTest {
                 call("water", lot.nextInt(24), lot.nextInt(100));
             }
         }
+        if (lot.nextInt(3) == 0) {
+            layOut();
+        }
+        if (lot.nextInt(12) == 0) {
+            passNearlyAllHours();
+        }
         for (int i = log.size(); i < CALLS; i = log.size()) {
             int what = lot.nextInt(NAMES.length + 6);
             if (what < NAMES.length) {
@@ -74,6 +80,27 @@ public final class ModelTest {
             }
         }
         look();
+    }
+
+    /** Sheets of both sorts with numbers in them, so that calls by lot find some. */
+    private void layOut() throws Exception {
+        for (int sheet = 0; sheet < 4; sheet++) {
+            call("sheet", sheet, sheet % 2, 4 + lot.nextInt(9));
+            for (int place = 0; place < 6; place++) {
+                call("mark", sheet, place, lot.nextInt(5) == 0 ? Model.NONE : lot.nextInt(100));
+            }
+            call("lay", sheet, 2, sheet);
+        }
+        call("lay", 4, 1 + 2 * lot.nextInt(2), lot.nextInt(3));
+    }
+
+    /** The bound of THE HOUR lies further off than the calls of a run go otherwise. */
+    private void passNearlyAllHours() throws Exception {
+        for (int i = 0; i < 99; i++) {
+            call("hours", 100);
+        }
+        call("hours", 60 + lot.nextInt(39));
+        call("keep");
     }
 
     private void call(String name, Object... args) throws Exception {
